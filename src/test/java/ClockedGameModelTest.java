@@ -541,7 +541,7 @@ public final class ClockedGameModelTest {
             case 5: due(run, call, "resume", x.resume(), m.resume()); return 1;
             case 6: { int p = who(); due(run, call, "ask", x.ask(p), m.ask(p)); return 1; }
             case 7: { int p = who(); due(run, call, "offer", x.offer(p), m.offer(p)); return 1; }
-            case 8: { boolean yes = filling ? pick(40) == 0 : pick(20) < 7; due(run, call, "answer", x.answer(yes), m.answer(yes)); return 1; }
+            case 8: { boolean yes = filling ? pick(40) == 0 : pick(20) < 11; due(run, call, "answer", x.answer(yes), m.answer(yes)); return 1; }
             case 9: { int p = who(); due(run, call, "resign", x.resign(p), m.resign(p)); return 1; }
             case 10: { int p = who(); due(run, call, "claim", x.claim(p), m.claim(p)); return 1; }
             case 11: due(run, call, "undo", x.undo(), m.undo()); return 1;
@@ -592,17 +592,19 @@ public final class ClockedGameModelTest {
         {0, 1, 6, 8, 1, 6, 40, 60, 10, 0, 0, 2, 0, 0, 0, 0},
         {6, 4, 10, 10, 2, 4, 4, 2, 4, 4, 2, 6, 30, 2, 2, 3},
         {2, 3, 4, 60, 1, 10, 3, 1, 3, 0, 1, 2, 0, 0, 0, 0},
+        {1, 4, 3, 30, 1, 6, 16, 1, 16, 0, 0, 22, 0, 0, 0, 0},
     };
 
     private static void prepare(int run, ClockedGame x, Whole m) {
-        if (run % 3 == 1) {
+        int round = run / WEIGHTS.length;
+        if (round % 3 == 1) {
             due(run, 0, "set", x.set(0, 1 + run % 60), m.set(0, 1 + run % 60));
             due(run, 0, "set", x.set(1, run % 7), m.set(1, run % 7));
             due(run, 0, "begin", x.begin(), m.begin());
         }
         filling = run % WEIGHTS.length == 2;
-        hunting = run % 2 == 1;
-        if (run % 4 == 1) due(run, 0, "set", x.set(5, 1), m.set(5, 1));
+        hunting = round % 2 == 1;
+        if (round % 4 == 1) due(run, 0, "set", x.set(5, 1), m.set(5, 1));
     }
 
     public static void main(String[] args) {

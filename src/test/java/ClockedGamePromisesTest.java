@@ -111,6 +111,23 @@ public final class ClockedGamePromisesTest {
         x.seal(6, 12);
         due("begin while broken off", x.begin(), 0);
         due("resume", x.resume(), STATE);
+        nothingIsLeftBehindBegin();
+    }
+
+    private static void nothingIsLeftBehindBegin() {
+        ClockedGame x = new ClockedGame();
+        moves(x, "a2a3 a5a4");
+        x.ask(0);
+        x.answer(true);
+        moves(x, "a2a3");
+        x.pass(8);
+        x.begin();
+        due("moves", x.game(3), 0);
+        due("ticks", x.game(5), 0);
+        due("taken back", x.player(0, 5), 0);
+        due("gone", x.player(1, 2), 0);
+        due("ask", x.ask(0), STATE);
+        due("ask", x.ask(1), STATE);
     }
 
     private static void set() {
@@ -194,6 +211,12 @@ public final class ClockedGamePromisesTest {
         due("free ones and others", x.pass(9999), -1);
         due("gone", x.player(0, 2), 1006);
         due("used", x.player(0, 1), 1001);
+        x = new ClockedGame();
+        x.set(1, 0);
+        x.pass(1000);
+        moves(x, "a2a3");
+        due("a clock that shows 0 is no fallen flag", x.pass(1), 999);
+        due("state", x.game(0), 0);
         x = withClaimedFlags();
         due("claimed flags", x.pass(9999), -9989);
         due("gone", x.player(0, 2), 9999);
@@ -802,6 +825,9 @@ public final class ClockedGamePromisesTest {
         due("one act", x.undo(), 0);
         record(x, "");
         due("the text does not come again", x.clear(), 0);
+        due("the borders", playText(x, "f2f3 f5f4 a1a2"), -1002);
+        due("the borders", playText(x, "a2a3 a6a5"), -1001);
+        due("the borders", playText(x, "f2f3 f5f4"), 2);
         partsWithErrors();
     }
 
@@ -882,6 +908,97 @@ public final class ClockedGamePromisesTest {
         x.undo();
         due("pieces", x.player(1, 6), 12);
         due("resume a state", x.resume(), STATE);
+        allIsRestored();
+        movesTakenBackAreRestored();
+        eachActIsKept();
+    }
+
+    /** A move is taken back, another is made in its place, and undo() brings the first one again. */
+    private static void movesTakenBackAreRestored() {
+        ClockedGame x = new ClockedGame();
+        x.set(1, 20);
+        moves(x, "a2b3 a5a4 b3a4");
+        x.ask(0);
+        x.answer(true);
+        long back = x.fingerprint();
+        x.set(1, 5);
+        moves(x, "f2f3");
+        for (int i = 0; i < 3; i++) x.undo();
+        due("question", x.game(6), 1);
+        due("answer", x.answer(true), 2);
+        due("the first move is taken back", x.fingerprint(), back);
+    }
+
+    private static void allIsRestored() {
+        ClockedGame x = new ClockedGame();
+        x.set(1, 20);
+        x.pass(3);
+        moves(x, "a2b3 a5a4 b3a4");
+        x.pass(9);
+        x.ask(0);
+        long asked = x.fingerprint();
+        x.begin();
+        moves(x, "f2f3");
+        x.set(1, 5);
+        x.undo();
+        x.undo();
+        x.undo();
+        due("ticks, question and asker again", x.fingerprint(), asked);
+        x.answer(true);
+        record(x, "3a2b3 0a5a4 0b3a4x ? <1");
+        due("added", x.player(0, 3), 20);
+        due("clock", x.player(0, 0), 1017);
+        due("from", x.at(cell("b3")), 0);
+        due("target", x.at(cell("a4")), 1);
+        long taken = x.fingerprint();
+        x.begin();
+        due("taken back", x.player(0, 5), 0);
+        x.undo();
+        due("taken back and used again", x.fingerprint(), taken);
+        x.seal(cell("b3"), cell("c4"));
+        x.begin();
+        x.seal(cell("f2"), cell("f3"));
+        x.undo();
+        x.undo();
+        due("the sealed move is the old one", x.resume(), 0);
+        due("to", x.at(cell("c4")), 0);
+        x.resign(1);
+        long over = x.fingerprint();
+        x.begin();
+        x.undo();
+        due("state and reason again", x.fingerprint(), over);
+    }
+
+    private static void eachActIsKept() {
+        ClockedGame x = new ClockedGame();
+        x.pass(1);
+        x.seal(cell("a2"), cell("a3"));
+        x.resume();
+        x.ask(0);
+        due("ask", x.undo(), 3);
+        due("question", x.game(6), 0);
+        due("resume", x.undo(), 2);
+        due("state", x.game(0), 1);
+        due("seal", x.undo(), 1);
+        due("state", x.game(0), 0);
+        x = withClaimedFlags();
+        x.pass(20);
+        x.claim(1);
+        x.begin();
+        due("history", x.undo(), 5);
+        due("state", x.game(0), 3);
+        due("claim", x.undo(), 4);
+        due("state", x.game(0), 0);
+        x.offer(0);
+        x.answer(false);
+        x.resign(1);
+        due("resign", x.undo(), 5);
+        due("answer", x.undo(), 4);
+        due("question", x.game(6), 2);
+        due("offer", x.undo(), 3);
+        due("question", x.game(6), 0);
+        due("pass", x.undo(), 2);
+        due("gone", x.player(0, 2), 0);
     }
 
     private static void fingerprint() {
