@@ -215,13 +215,14 @@ public final class ClockedGame {
             return -100 - place;
         }
         before.copyFrom(current);
-        int parts = 0;
-        for (int start = 0; start < text.length; start = text.endOfPart(start) + 1) {
+        int parts = text.countParts();
+        int start = 0;
+        for (int part = 0; part < parts; part++) {
             if (playPart(start) != FINE) {
                 current.copyFrom(before);
-                return -1000 - parts;
+                return -1000 - part;
             }
-            parts++;
+            start = text.endOfPart(start) + 1;
         }
         history.keep(before);
         text.empty();
@@ -1091,6 +1092,17 @@ public final class ClockedGame {
 
         private boolean isRow(char sign) {
             return sign >= '1' && sign <= '6';
+        }
+
+        /** The number of parts of a text without a fault: there is a blank between each two. */
+        int countParts() {
+            int parts = 1;
+            for (int i = 0; i < length; i++) {
+                if (signAt(i) == ' ') {
+                    parts++;
+                }
+            }
+            return parts;
         }
 
         int endOfPart(int start) {

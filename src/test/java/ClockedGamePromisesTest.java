@@ -1,70 +1,5 @@
 /** For each promise of the document: ordinary calls, the edges that it names, and wrong arguments. */
-public final class ClockedGamePromisesTest {
-    private static final int BAD = -200001;
-    private static final int STATE = -200002;
-    private static final int FULL = -200003;
-    private static final int NONE = -200009;
-    private static int promise = 0;
-    private static int wrong = 0;
-
-    private static void due(String call, long got, long want) {
-        if (got != want) {
-            wrong++;
-            System.out.println("promise " + promise + ": " + call + " answered " + got + ", due is " + want);
-        }
-    }
-
-    private static void record(ClockedGame x, String want) {
-        StringBuilder text = new StringBuilder();
-        for (int i = 0; i < x.written(); i++) text.append((char) x.sign(i));
-        if (!text.toString().equals(want)) {
-            wrong++;
-            System.out.println("promise " + promise + ": the record is '" + text + "', due is '" + want + "'");
-        }
-    }
-
-    private static int cell(String name) {
-        return name.charAt(0) - 'a' + 6 * (name.charAt(1) - '1');
-    }
-
-    /** Makes moves told as "a2a3 a5a4"; each must be possible. */
-    private static void moves(ClockedGame x, String all) {
-        for (String m : all.split(" ")) {
-            int answer = x.move(cell(m.substring(0, 2)), cell(m.substring(2)));
-            if (answer < 0) due("move " + m, answer, 0);
-        }
-    }
-
-    private static int why(ClockedGame x, String from, String to) {
-        return x.why(cell(from), cell(to));
-    }
-
-    private static int playText(ClockedGame x, String text) {
-        x.clear();
-        for (char c : text.toCharArray()) x.type(c);
-        return x.play();
-    }
-
-    /** A new game in which the record has so many entries, an even number, and no question is open. */
-    private static ClockedGame filled(int entries) {
-        ClockedGame x = new ClockedGame();
-        x.set(5, 1);
-        for (int i = 0; i < entries; i += 2) {
-            x.offer(0);
-            x.answer(false);
-        }
-        due("entries", x.game(4), entries);
-        return x;
-    }
-
-    private static ClockedGame withClaimedFlags() {
-        ClockedGame x = new ClockedGame();
-        x.set(0, 10);
-        x.set(5, 1);
-        x.begin();
-        return x;
-    }
-
+public final class ClockedGamePromisesTest extends GameChecks {
     private static void newObject() {
         promise = 1;
         ClockedGame x = new ClockedGame();
@@ -1063,7 +998,6 @@ public final class ClockedGamePromisesTest {
         play();
         undo();
         fingerprint();
-        System.out.println(wrong == 0 ? "all answers are as due" : wrong + " answers are not as due");
-        if (wrong != 0) System.exit(1);
+        tell();
     }
 }
