@@ -209,6 +209,21 @@ public final class ClockedGameEdgesTest extends GameChecks {
         due("one end", x.game(4), 32);
     }
 
+    /** It can't come up on this board, so all that can be seen is that no game runs on without a possible move. */
+    private static void noPossibleMove() {
+        sentence(0, "A player who has no possible move loses at once when it would be the turn of this player");
+        for (int run = 0; run < 300; run++) {
+            ClockedGame x = new ClockedGame();
+            for (int i = 0; i < 90 && x.game(0) == 0; i++) {
+                int moves = x.game(8);
+                due("there is a possible move", moves > 0 ? 1 : 0, 1);
+                int move = x.possible((run * 31 + i * i * 7 + run * i) % Math.max(1, moves));
+                x.move(move / 36, move % 36);
+            }
+            due("the game is over", x.game(0) > 1 ? 1 : 0, 1);
+        }
+    }
+
     // ---- time
 
     private static void settingRanges() {
@@ -1024,6 +1039,19 @@ public final class ClockedGameEdgesTest extends GameChecks {
         addsOneState("claim", x -> { claimFlags(x); x.pass(11); }, x -> x.claim(1));
     }
 
+    private static void clockLikeAnError() {
+        sentence(0, "that returns no error adds the state before it");
+        int[] errors = {BAD, STATE, FULL, NONE};
+        for (int error : errors) {
+            ClockedGame x = made(g -> { g.set(5, 1); for (int i = 0; i < 20; i++) g.pass(9999); });
+            due("a clock that shows the number of an error", x.pass(1000 - 20 * 9999 - error), error);
+            due("player", x.player(0, 0), error);
+            due("undo", x.undo(), 5);
+            due("ticks", x.game(5), 20 * 9999);
+            due("play", playText(x, (1000 - 20 * 9999 - error) + " a2a3"), 2);
+        }
+    }
+
     private static void othersAddNone() {
         sentence(0, "Each call described as an act");
         Call[] others = {x -> x.setting(0), x -> x.why(6, 12), x -> x.at(0), x -> x.game(0), x -> x.player(0, 0), x -> x.possible(0),
@@ -1050,6 +1078,25 @@ public final class ClockedGameEdgesTest extends GameChecks {
     }
 
     // ---- errors
+
+    private static void errorsChangeNothing() {
+        sentence(0, "A call that returns an error changes nothing");
+        Recipe busy = x -> {
+            x.set(2, 4);
+            moves(x, "a2b3 a5a4 b3a4");
+            x.pass(9);
+            x.ask(0);
+            typeAll(x, "7 a2a3");
+        };
+        refused("many calls", busy, x -> {
+            int[] answers = {x.set(7, 1), x.set(0, 0), x.pass(0), x.pass(10000), x.move(-1, 0), x.move(0, 36), x.seal(36, 0), x.ask(2),
+                x.offer(-1), x.resign(2), x.claim(2), x.type(31), x.type(127)};
+            for (int answer : answers) if (answer != BAD) return answer;
+            int[] later = {x.move(0, 0), x.resume(), x.ask(0), x.ask(1), x.offer(0), x.offer(1), x.claim(0), x.claim(1)};
+            for (int answer : later) if (answer != STATE) return answer;
+            return x.play();
+        }, -1001);
+    }
 
     private static void severalErrors() {
         sentence(0, "If several errors apply to a call, the one listed first is returned");
